@@ -203,7 +203,7 @@ public final class OutlineDesk {
         switch (what) {
             case 0: return Days.yearOf(day);
             case 1: return Days.monthsBefore(day) % Days.YEAR_MONTHS + 1;
-            case 2: return Days.dayInMonth(day);
+            case 2: return Days.dayInMonth(day, Days.monthsBefore(day));
             default: return day % Days.WEEK_DAYS;
         }
     }
@@ -907,8 +907,9 @@ public final class OutlineDesk {
         }
 
         private static int monthsLater(int day, int count, int behind) {
-            int months = monthsBefore(day) + count;
-            int inMonth = Math.min(dayInMonth(day), lengthOf(months));
+            int before = monthsBefore(day);
+            int months = before + count;
+            int inMonth = Math.min(dayInMonth(day, before), lengthOf(months));
             // After as many steps as a cycle has months, every month that they ever meet has cut the day.
             for (int i = 0; i < CYCLE_MONTHS && inMonth > SHORTEST_MONTH && number(months, inMonth) <= behind; i++) {
                 months += count;
@@ -945,6 +946,7 @@ public final class OutlineDesk {
             return firstDayOf(year + 1) > day ? year : year + 1;
         }
 
+        /** The month of a day. */
         static int monthsBefore(int day) {
             int january = (yearOf(day) - 1) * YEAR_MONTHS;
             for (int month = YEAR_MONTHS - 1; month > 0; month--) {
@@ -955,8 +957,8 @@ public final class OutlineDesk {
             return january;
         }
 
-        static int dayInMonth(int day) {
-            return day - number(monthsBefore(day), 1) + 1;
+        static int dayInMonth(int day, int months) {
+            return day - number(months, 1) + 1;
         }
 
         private static int firstDayOf(int year) {

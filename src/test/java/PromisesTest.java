@@ -378,6 +378,8 @@ public final class PromisesTest {
         unsupported("one of two above it", () -> desk.state(1, 3));
         due("nothing changed", told(desk, 1, 10, 11) + " " + desk.told(1, 4), LAST_DAY + " 5 2");
         due("no step", desk.steps(0), steps);
+        desk.date(2, 1, LAST_DAY, 1, 0, 1);
+        unsupported("due above it", () -> desk.state(2, 3));
         argument("state before day", () -> desk.state(1, 5));
         due("not done, so no move", desk.state(1, 4), 4);
         desk.date(1, 0, dayOf(9999, 1, 1), 1, 3, 99);
@@ -927,6 +929,7 @@ public final class PromisesTest {
         due("all", told(desk, 1, 0, 15), "0 0 2 11 2 3 2 6 2 1 20 30 40 50 321 9932");
         due("under root", told(desk, 5, 0, 2), "-1 1 1");
         due("a later place", told(desk, 4, 0, 2), "0 1 2");
+        due("a first place behind others as deep", told(desk, 6, 0, 2), "5 0 2");
         due("tags of those above alone", desk.told(2, 7) * 100 + desk.told(4, 7), 636);
         index("not there", () -> desk.told(7, 0));
         index("root", () -> desk.told(ROOT, 0));
