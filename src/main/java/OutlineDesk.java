@@ -938,11 +938,8 @@ public final class OutlineDesk {
         }
 
         static int yearOf(int day) {
-            // By the mean length of a year this is the year or one beside it.
+            // By the mean length of a year this is the year or the one before it.
             int year = (int) ((long) day * CYCLE_YEARS / CYCLE_DAYS) + 1;
-            if (firstDayOf(year) > day) {
-                return year - 1;
-            }
             return firstDayOf(year + 1) > day ? year : year + 1;
         }
 

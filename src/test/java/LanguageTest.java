@@ -55,9 +55,9 @@ public final class LanguageTest {
             """;
 
     private static final String[] FORBIDDEN = {
-        "->", "::", "\\bfinally\\b", "\\btry\\b", "\\bsynchronized\\b", "\\bassert\\b", "\\bpackage\\b", "\\bvolatile\\b",
+        "^(?!\\s*(case|default)\\b).*->", "::", "\\bfinally\\b", "\\bsynchronized\\b", "\\bassert\\b", "\\bpackage\\b", "\\bvolatile\\b",
         "\\bnative\\b", "\\bstatic\\s*\\{", "Exact\\(", "\\bSystem\\.(?!arraycopy)", "\\bMath\\.(?!max|min|abs|floorDiv|floorMod)",
-        "\\bArrays\\.(?!copyOf|copyOfRange|fill)", "\\bhashCode\\b", "\\btoString\\b", "\\bRandom\\b", "\\bObject\\b",
+        "\\bArrays\\.(?!copyOf|copyOfRange|fill)", "\\bhashCode\\b", "\\bRandom\\b", "\\bObject\\b",
         "\\bwhile\\s*\\(true\\)", "for\\s*\\(;;", "^import (?!java\\.util\\.(Arrays|ArrayList|List);)",
     };
 
