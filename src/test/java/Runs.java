@@ -73,7 +73,7 @@ final class Runs {
     }
 
     private void unchanged(String at, List<Script.Row> run, Script.Row row) {
-        check.due(at + " has changed something:", new Asker(with(run, row)).picture(), new Asker(run).picture());
+        same(at + " has changed something:", new Asker(with(run, row)).picture(), new Asker(run).picture());
     }
 
     private void unchangedElsewhere(String at, List<Script.Row> run, Script.Row row) {
@@ -108,8 +108,19 @@ final class Runs {
             return;
         }
         check.due(at + ": steps(0) behind it", after.steps(0), Math.min(before.steps(0) + 1, MOST_STEPS));
-        check.due(at + ": undone:", new Asker(Asker.with(done, "undo")).outline(), before.outline());
-        check.due(at + ": redone:", new Asker(Asker.with(done, "undo\nredo")).outline(), after.outline());
+        same(at + ": undone:", new Asker(Asker.with(done, "undo")).outline(), before.outline());
+        same(at + ": redone:", new Asker(Asker.with(done, "undo\nredo")).outline(), after.outline());
+    }
+
+    /** Of two texts that differ the first line that does is told. */
+    private void same(String at, String got, String want) {
+        String[] gotLines = got.split("\n");
+        String[] wantLines = want.split("\n");
+        int line = 0;
+        while (line < Math.min(gotLines.length, wantLines.length) && gotLines[line].equals(wantLines[line])) {
+            line++;
+        }
+        check.due(at, line < gotLines.length ? gotLines[line] : "", line < wantLines.length ? wantLines[line] : "");
     }
 
     /** Whether a group is open behind a run, as its rows are due. */

@@ -861,7 +861,6 @@ public final class TermsTest {
     }
 
     public static void main(String[] args) {
-        calls();
         numbersOfEntries();
         thereOrNot();
         depth();
@@ -878,6 +877,7 @@ public final class TermsTest {
         redoing();
         notThere();
         firstNamed();
+        calls();
         CHECK.end("TermsTest");
     }
 }
