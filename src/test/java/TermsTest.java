@@ -246,6 +246,24 @@ public final class TermsTest {
                 match 40 0 31 0 = 3
                 items = 5:-1:-1 6:-1:-1 7:-1:-1
                 """);
+        play("not those of others behind it, or that are not there", """
+                3* insert ROOT i 5
+                3* tag i i true
+                insert 1 0 5 = 3
+                told 1 7 = 2
+                told 3 7 = 2
+                remove 0 = 1
+                told 1 7 = 2
+                told 3 7 = 2
+                told 2 7 = 4
+                remove 3 = 1
+                told 1 7 = 2
+                told 2 7 = 4
+                match 4 0 31 0 = 1
+                undo = true
+                undo = true
+                told 3 7 = 2
+                """);
         play("24 bits", """
                 insert ROOT 0 5 = 0
                 24* tag 0 i true
