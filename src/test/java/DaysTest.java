@@ -59,6 +59,23 @@ public final class DaysTest {
         }
     }
 
+    /** Today is a day on which one of the steps ends, or one beside it. */
+    private static void movesToToday() {
+        Random random = new Random(6);
+        for (int i = 0; i < MOVES; i++) {
+            int day = day(random);
+            int[] step = {1, random.nextInt(4), 1 + random.nextInt(random.nextBoolean() ? 99 : 4)};
+            int today = day;
+            for (int steps = random.nextInt(4); steps >= 0; steps--) {
+                today = PlainDesk.moved(today, step, 0);
+            }
+            today = Math.min(Math.max(today + random.nextInt(3) - 1, 0), LAST_DAY);
+            int[] repeat = {2, step[1], step[2]};
+            CHECK.due("moved " + day + " on " + today + " by " + step[1] + " " + step[2], moved(day, repeat, today),
+                    due(PlainDesk.moved(day, repeat, today)));
+        }
+    }
+
     private static void longMoves() {
         int[] ends = {0, 30, 58, 1154, 1489};
         for (int day : ends) {
@@ -92,6 +109,7 @@ public final class DaysTest {
         everyDay();
         everyMonthsEnd();
         moves();
+        movesToToday();
         longMoves();
         CHECK.end("DaysTest");
     }

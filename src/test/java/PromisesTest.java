@@ -1,3 +1,8 @@
+import java.util.ArrayList;
+import java.util.Comparator;
+import java.util.List;
+import java.util.stream.Collectors;
+
 /** A test or more for each promise of the document: ordinary inputs, the edges that it names, wrong inputs. */
 public final class PromisesTest {
     private static final int NONE = OutlineDesk.NONE;
@@ -554,6 +559,43 @@ public final class PromisesTest {
         argument("5", () -> desk.sort(ROOT, 5));
     }
 
+    /** Keys that go up and down, some of them equal. */
+    private static int scrambled(int i, int size) {
+        return i * i * 31 % (size + 7);
+    }
+
+    private static void promise14LongRows() {
+        promise = "promise 14";
+        for (int size = 1; size <= 165; size += size < 60 ? 1 : 35) {
+            OutlineDesk desk = new OutlineDesk();
+            List<Integer> order = new ArrayList<>();
+            for (int i = 0; i < size; i++) {
+                desk.insert(ROOT, i, scrambled(i, size));
+                order.add(i);
+            }
+            int asked = size;
+            desk.sort(ROOT, 0);
+            order.sort(Comparator.comparingInt(i -> scrambled(i, asked)));
+            due(size + " by title", lines(desk), words(order));
+        }
+        for (int size = 1; size <= 120; size += size < 60 ? 1 : 30) {
+            OutlineDesk desk = flat(size);
+            List<Integer> order = new ArrayList<>();
+            for (int i = 0; i < size; i++) {
+                desk.minutes(i, 0, scrambled(i, size));
+                order.add(i);
+            }
+            int asked = size;
+            desk.sort(ROOT, 4);
+            order.sort(Comparator.comparingInt(i -> -scrambled(i, asked)));
+            due(size + " by effort", lines(desk), words(order));
+        }
+    }
+
+    private static String words(List<?> items) {
+        return items.stream().map(Object::toString).collect(Collectors.joining(" "));
+    }
+
     private static void promise15() {
         promise = "promise 15";
         OutlineDesk desk = small();
@@ -832,6 +874,22 @@ public final class PromisesTest {
         due("first and last day", found(desk), "6:0:1 2:99:1 3:101:0 6:3652058:0");
     }
 
+    private static void promise24LongRows() {
+        promise = "promise 24";
+        for (int size = 1; size <= 70; size++) {
+            OutlineDesk desk = flat(size);
+            List<int[]> items = new ArrayList<>();
+            for (int i = 0; i < size; i++) {
+                desk.date(i, i % 2, scrambled(i, size), 0, 0, 0);
+                desk.rank(i, i % 3);
+                items.add(new int[] {i, scrambled(i, size), i % 2, i % 3});
+            }
+            items.sort(Comparator.<int[]>comparingInt(i -> i[1]).thenComparingInt(i -> -i[2]).thenComparingInt(i -> -i[3]));
+            due(size + " dates", desk.agenda(0, LAST_DAY), size);
+            due(size + " dates in order", found(desk), words(items.stream().map(i -> i[0] + ":" + i[1] + ":" + i[2]).toList()));
+        }
+    }
+
     private static void promise25() {
         promise = "promise 25";
         OutlineDesk desk = small();
@@ -972,6 +1030,7 @@ public final class PromisesTest {
         promise12();
         promise13();
         promise14();
+        promise14LongRows();
         promise15();
         promise16();
         promise17();
@@ -982,6 +1041,7 @@ public final class PromisesTest {
         promise22();
         promise23();
         promise24();
+        promise24LongRows();
         promise25();
         promise26();
         promise27();
